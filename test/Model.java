@@ -13,11 +13,13 @@ final class Model {
     static final int NONE = -1;
 
     static final class Fault extends RuntimeException {
+        private static final long serialVersionUID = 1L;
+
         final int kind;
         final int place;
 
         Fault(int kind, int place) {
-            super(null, null, false, false);
+            super(null, null, false, false); // no trace: many are thrown
             this.kind = kind;
             this.place = place;
         }
