@@ -68,6 +68,7 @@ public final class PromisesTest {
         beach();
         beachFaults();
         law();
+        lawAnew();
         lawFaults();
         year();
         fault();
@@ -108,6 +109,8 @@ public final class PromisesTest {
         one();
         seen();
         imageAndRestore();
+        imageOfHand();
+        fullSize();
         status();
         count();
         lifeOf512();
@@ -241,6 +244,30 @@ public final class PromisesTest {
         Texts.feed(b, "cells 5;cells 5;cells 5;");
         due(3, "only the first n bytes", b.beach(8), 5);
         due(3, "the TAPE is empty then", b.count(2), 0);
+        beachAnew();
+    }
+
+    /** Nothing of an older text, nor of a faulty one, may come back. */
+    private static void beachAnew() {
+        ShingleBank b = on("cells 4;heap 0 0 0 9;crest 1 5;wall 1 6;spring 2 0 0 1;lorry 2 3 1 1;", "", "wave 1 1 0;");
+        for (int i = 0; i < 4; i++) {
+            if (i == 2) {
+                due(3, "a faulty one", Texts.beach(b, "cells 9;heap 0 0 0 9;crest 1 7;wall 1 7;spring 0 0 0 1;lorry 0 1 1 1;x"), -9);
+            }
+            due(3, "an empty one", Texts.beach(b, ""), 6);
+            due(3, "no stones", b.stones(-1, -1, -1), 0);
+            due(3, "no crest told", b.cell(1, 0), 20);
+            due(3, "no walls", b.cell(1, 1), 0);
+            due(3, "no springs", b.told(2), 0);
+            due(3, "no lorries", b.told(3), 0);
+        }
+        ShingleBank c = on("cells 4;spring 2 0 0 1;lorry 2 3 1 1;", "", "wave 1 1 0;");
+        due(3, "a faulty one", Texts.beach(c, "spring 1 0 0 5;spring 1 1 1 7;lorry 0 2 1 9;cells"), -6);
+        due(3, "springs stay", c.told(2), 1);
+        due(3, "lorries stay", c.told(3), 1);
+        c.wave(0, 1, 1, 0);
+        due(3, "and do what they did", c.stones(3, 0, 0), 1);
+        due(3, "and no more than that", c.sums(1), 1);
     }
 
     private static void beachFault(String text, int kind, int place) {
@@ -253,6 +280,9 @@ public final class PromisesTest {
     private static void beachFaults() {
         beachFault("cell 3;", 1, 0);
         beachFault("  Cells 3;", 1, 2);
+        beachFault("bells 3;", 1, 0);
+        beachFault("leap 0 0 0 1;", 1, 0);
+        beachFault("cellz 3;", 1, 0);
         beachFault("cells", 1, 5);
         beachFault("cells  ", 1, 7);
         beachFault("cells 3", 1, 7);
@@ -322,6 +352,9 @@ public final class PromisesTest {
         due(4, "LAWS", b.told(4), 4);
         Texts.feed(b, "move=x;");
         due(4, "a fifth, ahead of reading it", b.law(7), -1);
+        Texts.beach(b, "x");
+        Texts.feed(b, "move=1;");
+        due(4, "a fifth", b.law(7), -1);
         due(4, "no FAULT", b.fault(), -1);
         due(4, "the TAPE is empty", b.count(2), 0);
         due(4, "LAWS", b.told(4), 4);
@@ -330,6 +363,25 @@ public final class PromisesTest {
         due(4, "over of the second", b.says(1, 2, 0, 0, 0, 1, 1, 0), 1);
         due(4, "wear of the second", b.says(1, 1, 0, 0, 0, 1, 1, 0), 3);
         due(4, "move of the first", b.says(0, 0, 0, 0, 0, 1, 1, 0), 0);
+    }
+
+    /** Nothing of a faulty text may stay. */
+    private static void lawAnew() {
+        ShingleBank b = on("cells 2;");
+        due(4, "a faulty one", Texts.law(b, "move=5;wear=6;over=7;("), -9);
+        due(4, "one that tells nothing", b.law(0), 1);
+        for (int what = 0; what <= 2; what++) {
+            due(4, "says nothing: " + what, b.says(1, what, 0, 0, 0, 1, 1, 0), 0);
+        }
+        due(4, "six are open at its FAULT", Texts.law(b, "over=((((((;"), -9);
+        due(4, "none as the next begins", Texts.law(b, "over=((((((3))))));"), 2);
+        due(4, "which says", b.says(2, 2, 0, 0, 0, 1, 1, 0), 3);
+        StringBuilder sum = new StringBuilder("move=1");
+        for (int i = 0; i < 296; i++) {
+            sum.append(i % 2 == 0 ? "+1" : "-0");
+        }
+        due(4, "as long as may be", Texts.law(b, sum + ";"), 3);
+        due(4, "which says", b.says(3, 0, 0, 0, 0, 1, 1, 0), 149);
     }
 
     private static void lawFault(String text, int kind, int place) {
@@ -356,6 +408,8 @@ public final class PromisesTest {
         lawFault("move=if 1 then 2 else 3;", 1, 10);
         lawFault("move=if 1=1 then 2;", 1, 18);
         lawFault("move=if 1=1 else 2;", 1, 12);
+        lawFault("move=if 1=1 2 else 3;", 1, 12);
+        lawFault("move=if 1=1 then 2 3;", 1, 19);
         lawFault("move=if (1=1) then 2 else 3;", 1, 10);
         lawFault("move=if [1] then 2 else 3;", 1, 10);
         lawFault("move=if [1=1 then 2 else 3;", 1, 13);
@@ -394,6 +448,9 @@ public final class PromisesTest {
         due(5, "a fourth", Texts.year(b, "wave 1 1 0;"), 3);
         Texts.feed(b, "wave;");
         due(5, "a fifth, ahead of reading it", b.year(5), -1);
+        Texts.beach(b, "x");
+        Texts.feed(b, "wave 1 1 0;");
+        due(5, "a fifth", b.year(11), -1);
         due(5, "no FAULT", b.fault(), -1);
         due(5, "the TAPE is empty", b.count(2), 0);
         refused(5, "n above the tape with 4", WRONG, () -> b.year(1));
@@ -401,6 +458,11 @@ public final class PromisesTest {
         b.law(0);
         due(5, "180 HOURS", b.run(0, 0), 180);
         due(5, "2 HOURS", b.run(0, 1), 2);
+        ShingleBank c = on("");
+        due(5, "a faulty one", Texts.year(c, many("wave 1 1 0;", 19) + "x"), -9);
+        due(5, "nothing of it stays", Texts.year(c, "wave 1 1 0;wave 1 1 0;"), 1);
+        due(5, "2 HOURS", c.run(0, 1), 2);
+        yearFault("1 1 0;", 1, 0);
         yearFault("   ", 1, 3);
         yearFault("wave 1 1;", 1, 8);
         yearFault("wave 1 1 0", 1, 10);
@@ -535,6 +597,10 @@ public final class PromisesTest {
         due(11, "from", value("from"), 1);
         due(11, "crest", value("crest"), 44);
         due(11, "cell", value("cell"), 3);
+        ShingleBank b = on("cells 2;sizes 4;heap 1 0 0 9;heap 1 1 2 7;heap 1 2 0 1;", "move=below;wear=above;", "wave 1 1 0;");
+        due(11, "below: 16 of 17, of all STUFF", b.says(0, 0, 1, 2, 0, 1, 1, 0), 15);
+        due(11, "below: all", b.says(0, 0, 1, 3, 0, 1, 1, 0), 16);
+        due(11, "above: 8 of 17", b.says(0, 1, 1, 0, 0, 1, 1, 0), 7);
         due(11, "from the left", value("20-3-2+1"), 16);
         due(11, "* ahead of +", value("2+3*4"), 14);
         due(11, "( )", value("(2+3)*4"), 20);
@@ -617,6 +683,11 @@ public final class PromisesTest {
         due(12, "SAND", c.sums(2), 7);
         due(12, "from the last one", c.stones(1, 0, 0), 7);
         due(12, "kept in the last one", c.stones(2, 0, 0), 2);
+        ShingleBank single = on("cells 2;sizes 2;heap 0 0 0 1;heap 0 1 2 17;heap 0 1 1 16;heap 0 1 0 16;", "move=if size=0 then 16 else stuff;", "wave 1 1 0;");
+        due(12, "a single stone, and by STUFF 0, 1, 2", single.wave(0, 1, 1, 0), 1 + 1 + 2);
+        due(12, "a single stone", single.stones(1, 0, 0), 1);
+        due(12, "one of STUFF 1", single.stones(1, 1, 1), 1);
+        due(12, "two of STUFF 2", single.stones(1, 1, 2), 2);
         ShingleBank none = on("heap 0 0 0 99;", "move=0-5;wear=99;", "wave 1 1 0;");
         due(12, "held to 0", none.wave(0, 1, 1, 0), 0);
         due(12, "nothing moved", none.stones(0, 0, 0), 99);
@@ -666,6 +737,12 @@ public final class PromisesTest {
         due(12, "not below 1", b.cell(0, 0), 1);
         due(12, "but an OVER", b.cell(0, 2), 2);
         due(12, "BEHIND", b.sums(3), 12 + 1 + 9);
+        ShingleBank apart = on("cells 3;heap 0 3 2 99;heap 1 0 0 99;heap 2 0 0 99;crest 1 1;", "move=1;over=if size+stuff+above+below=0 then 2 else 30;", "wave 1 1 0;");
+        apart.wave(0, 1, 1, 1);
+        due(12, "only the CELL that it goes over", apart.stones(2, 0, 0), 93);
+        due(12, "only the CELL that it goes over", apart.stones(0, 3, 2), 99);
+        due(12, "99 less 6, and 6 of the next one, less 6", apart.stones(1, 0, 0), 93);
+        due(12, "size, stuff, above, below are 0 for over", apart.cell(2, 2) + apart.cell(0, 2), 0);
         ShingleBank moved = on("cells 2;heap 0 0 0 32;crest 1 1;", "move=16;over=2;", "wave 1 1 0;");
         moved.wave(0, 1, 1, 0);
         due(12, "behind what was moved", moved.stones(1, 0, 0), 30);
@@ -765,6 +842,8 @@ public final class PromisesTest {
         due(16, "of how many", b.order(1), 6);
         due(16, "HORNS: CELLS 0 and 3", b.order(2), 2);
         due(16, "KNOWN: CELLS 3 and 4", b.order(3), 2);
+        due(16, "KNOWN: CELL 0", on("cells 3;heap 0 2 0 5;heap 1 1 0 5;heap 2 1 0 5;").order(3), 1);
+        due(16, "HORNS: the last but one is none", on("cells 3;heap 0 0 0 1;heap 1 0 0 2;heap 2 0 0 3;").order(2), 1);
         refused(16, "what", WRONG, () -> b.order(4));
         refused(16, "what", WRONG, () -> b.order(-1));
         ShingleBank alone = on("cells 2;heap 1 1 0 5;");
@@ -791,6 +870,7 @@ public final class PromisesTest {
     }
 
     private static void sound() {
+        due(18, "MEAN 1990", on("heap 0 2 0 99;heap 0 1 0 1;").sound(0), 41);
         ShingleBank b = on("cells 4;heap 0 3 0 1;heap 1 0 0 99;heap 1 1 0 1;heap 2 1 0 1;");
         due(18, "of great ones", b.sound(0), 30);
         due(18, "cut", b.sound(1), 60);
@@ -866,6 +946,11 @@ public final class PromisesTest {
         for (int what = 0; what <= 2; what++) {
             due(23, "all WORDS are 0: " + what, b.where(what), -1);
         }
+        ShingleBank tiny = on("cells 2;heap 1 0 0 1;heap 1 0 1 999;");
+        tiny.take(0, 0);
+        due(23, "the least WORD there is", tiny.where(0), 1);
+        due(23, "the least WORD there is", tiny.where(1), 1);
+        due(23, "the least WORD there is", tiny.where(2), 0);
         refused(23, "what", WRONG, () -> b.where(3));
         refused(23, "what", WRONG, () -> b.where(-1));
     }
@@ -1035,6 +1120,7 @@ public final class PromisesTest {
         due(31, "as it is", b.cost(0, 0, 0, 4, 1), 0);
         due(31, "another wall", b.cost(0, 0, 1, 16, 2), 0);
         due(31, "nothing stays changed", b.cell(0, 1), 4);
+        due(31, "nor the stones", b.stones(0, -1, -1), 160);
         refused(31, "CELL", OUTSIDE, () -> b.cost(9, 9, 0, 99, 3));
         refused(31, "CELL", OUTSIDE, () -> b.cost(0, 0, 0, 1, -1));
         refused(31, "the last wall", OUTSIDE, () -> b.cost(0, 0, 2, 1, 0));
@@ -1056,6 +1142,8 @@ public final class PromisesTest {
         due(32, "OVERS then", b.raised(0, 0, 2, 7, 1), 2);
         due(32, "all", b.raised(0, 0, 3, 20, 0), 7);
         due(32, "OVERS then", b.raised(0, 0, 3, 20, 1), 0);
+        due(32, "2 higher once more", b.raised(0, 0, 1, 2, 0), 2);
+        due(32, "OVERS once more", b.raised(0, 0, 1, 2, 1), 6);
         b.wave(0, 30, 1, 0);
         due(32, "those of the YEAR alone", b.raised(0, 0, 3, 20, 1), 0);
         due(32, "nothing stays changed", b.cell(0, 0), 4);
@@ -1090,6 +1178,13 @@ public final class PromisesTest {
         // of 11 to 9: 9 less than 1000, 10 1000
         due(33, "whence and whither", c.brought(0, 0, 999, 0), 1100);
         due(33, "IN ORDER then", c.brought(0, 0, 999, 1), 2);
+        due(33, "the first beach once more", b.brought(0, 0, 1, 0), -1);
+        due(33, "the first beach once more", b.brought(0, 0, 1, 1), 0);
+        ShingleBank d = on("cells 3;heap 0 2 0 16;heap 1 0 0 16;", "move=if size=2 then 16 else 0;", "wave 1 1 0;");
+        // behind the YEAR all of SIZE 2 are in CELL 1, and CELL 0 is without stones; with one brought there it is not
+        due(33, "behind a YEAR: the first that leaves two CELLS", d.brought(0, 0, 1, 0), 1);
+        due(33, "behind a YEAR: one of them goes on to CELL 2", d.brought(0, 0, 1, 1), 1);
+        due(33, "behind a YEAR: lesser ones to CELL 0", d.brought(0, 0, 16, 1), 1);
         refused(33, "N", WRONG, () -> b.brought(0, 0, 0, 0));
         refused(33, "N", WRONG, () -> b.brought(0, 0, 1000, 0));
         refused(33, "what", WRONG, () -> b.brought(0, 0, 1, 2));
@@ -1164,6 +1259,13 @@ public final class PromisesTest {
         due(37, "of alike ones the least: behind 2 there is one anyway", b.walls(0, 0, 1, 16, 2, 0), 4);
         due(37, "nothing stays changed", b.cell(1, 1), 0);
         due(37, "CELL 0", b.walls(0, 0, 2, 8, 0, 0), 3);
+        due(37, "CELL 0, one", b.walls(0, 0, 1, 8, 0, 0), 1);
+        due(37, "CELL 0 of 64: 48, then 36", b.walls(0, 0, 1, 8, 0, 1), 36);
+        due(37, "CELL 0 by a wall of 1: 34, then 18", b.walls(0, 0, 1, 1, 0, 1), 18);
+        ShingleBank onward = on("cells 3;heap 0 0 0 16;heap 1 0 0 16;", "move=16;", "wave 1 1 0;");
+        due(37, "every wall is in its way: the least by what it keeps", onward.walls(0, 0, 1, 16, 2, 0), 1);
+        due(37, "stones then", onward.walls(0, 0, 1, 16, 2, 1), 16);
+        due(37, "the last one has no wall", onward.walls(0, 0, 2, 16, 2, 1), 0);
         refused(37, "CELL", OUTSIDE, () -> b.walls(9, 9, 0, 0, 4, 9));
         refused(37, "CELL", OUTSIDE, () -> b.walls(0, 0, 1, 1, -1, 0));
         due(37, "the last CELL", b.walls(0, 0, 1, 1, 3, 0) > 0 ? 1 : 0, 1);
@@ -1200,6 +1302,16 @@ public final class PromisesTest {
             late.lots(0, 0, 200 - 20 * i, 1);
         }
         due(38, "HOURS end ahead of that", late.high(0, 0), 0);
+        ShingleBank edge = on("cells 2;", "over=if beat=2 then 21 else 0;", "wave 1 1 0 times 2;wave 1 2 0;");
+        Texts.year(edge, "wave 1 1 0;");
+        edge.lots(0, 1, 200, 1);
+        edge.lots(0, 1, 200, 1);
+        edge.lots(0, 1, 197, 1);
+        due(38, "the last HOUR of all", edge.high(0, 0), 1);
+        due(32, "the last HOUR of all", edge.raised(0, 0, 1, 1, 1), 1);
+        edge.lots(0, 1, 1, 1);
+        due(38, "behind the last HOUR", edge.high(0, 0), 0);
+        due(32, "behind the last HOUR", edge.raised(0, 0, 1, 1, 1), 0);
     }
 
     private static void one() {
@@ -1257,6 +1369,10 @@ public final class PromisesTest {
         due(41, "the second", b.image(), 2);
         b.run(0, 0);
         b.drop();
+        b.take(3, 1);
+        b.take(3, 1);
+        b.drop();
+        b.put(0, 0, 2, 30);
         due(41, "the third", b.image(), 3);
         due(41, "a fourth", b.image(), -1);
         due(41, "IMAGES", b.count(1), 3);
@@ -1269,6 +1385,7 @@ public final class PromisesTest {
         due(42, "the second", b.restore(), 1);
         due(42, "HOURS", b.told(6), 1);
         due(42, "HANDFUL", b.count(0), 2);
+        due(42, "WORD", b.word(0), 0);
         due(42, "SAMPLE", b.count(3), 2);
         due(42, "OVERS", b.cell(0, 2), 1);
         due(42, "crest", b.cell(0, 0), 2);
@@ -1277,6 +1394,8 @@ public final class PromisesTest {
         due(42, "the first", b.restore(), 0);
         due(42, "HOURS", b.told(6), 0);
         due(42, "HANDFUL", b.count(0), 1);
+        due(42, "WORD: that stone", b.word(0), 0);
+        due(42, "and drop", b.drop(), 1);
         due(42, "SAMPLE", b.sample(0, 0, 7), 7);
         due(42, "SAMPLE", b.count(3), 1);
         due(42, "OVERS", b.cell(0, 2), 0);
@@ -1294,6 +1413,59 @@ public final class PromisesTest {
         due(41, "one more", b.image(), 1);
         Texts.beach(b, "");
         due(41, "IMAGES are gone with the BEACH", b.restore(), -1);
+    }
+
+    private static void imageOfHand() {
+        ShingleBank b = on("cells 2;heap 0 0 0 1;heap 0 1 0 2;heap 0 3 2 1;");
+        b.take(0, 0);
+        b.take(1, 0);
+        b.image();
+        b.drop();
+        b.take(3, 2);
+        b.take(3, 2);
+        due(41, "another HANDFUL", b.word(0), 250 * 250);
+        b.restore();
+        due(42, "the HANDFUL of the IMAGE", b.word(0), 250 * 500);
+    }
+
+    /** As many CELLS and SIZES as may be: the last of all is asked for, and nothing beyond. */
+    private static void fullSize() {
+        StringBuilder beach = new StringBuilder("cells 12;sizes 6;");
+        for (int c = 0; c < 12; c++) {
+            beach.append("heap ").append(c).append(" 5 2 ").append(16 * (c + 1)).append(";heap ").append(c).append(" 0 0 8;");
+        }
+        ShingleBank b = on(beach + "lorry 11 12 1 1;wall 10 16;", "move=8;wear=8;over=21-height;", "wave 2 1 0;wave 1 1 1;");
+        due(8, "all", b.stones(-1, -1, -1), 16 * 78 + 96);
+        due(8, "of the last", b.stones(11, 5, 2), 192);
+        due(15, "MEAN of the last", b.mean(11), 4800);
+        due(16, "IN ORDER", b.order(0), 66);
+        due(16, "of all two", b.order(1), 66);
+        due(16, "HORNS", b.order(2), 1);
+        due(16, "KNOWN: 33, 40, 42, 44, 45, 46, 46, 47, 47, 47, 47, 48", b.order(3), 6);
+        due(17, "HORN", b.horn(0), 11);
+        due(18, "SOUND of the last", b.sound(11), 12);
+        due(24, "FOUND", b.found(5, 1), 78);
+        due(25, "MILES", b.miles(5), 7333);
+        due(26, "LOST", b.lost(), 0);
+        due(27, "LOOKING", b.look(5, 2, 0), 3072);
+        due(27, "all CELLS", b.look(5, 12, 0), 4095);
+        due(27, "part", b.look(5, 2, 1), 294);
+        due(36, "LIKE", b.like(0, 11), 2 * 294 - 1);
+        due(39, "BY ONE", b.one(0), 0);
+        due(19, "take", b.take(5, 2), 1);
+        due(23, "GUESS", b.where(0), 11);
+        due(23, "NEAR", b.where(1), 6);
+        b.sample(11, 5, 50);
+        due(44, "SAMPLE", b.count(3), 1);
+        due(32, "RAISED", b.raised(0, 0, 3, 20, 0), 7);
+        due(33, "BROUGHT", b.brought(0, 0, 999, 1) >= 0 ? 1 : 0, 1);
+        due(37, "WALLS", Integer.bitCount(b.walls(0, 0, 3, 16, 11, 0)), 3);
+        due(38, "HIGH", b.high(0, 0), 0);
+        due(35, "LAST", b.last(0, 0, 11, 999), 0);
+        due(31, "COST", b.cost(0, 0, 10, 16, 11), 0);
+        due(30, "WHICH", b.which(0, 0), 0);
+        due(12, "wave", b.wave(0, 1, 1, 0), 8 * 78 + 48);
+        due(42, "restore of none", b.restore(), -1);
     }
 
     private static void status() {

@@ -918,12 +918,12 @@ public final class ShingleBank {
         final int[] times = new int[WAVES];
         int waves = 0;
 
-        void add(int height, int beat, int from) {
+        void add(int height, int beat, int from, int often) {
             if (waves < WAVES) {
                 heights[waves] = height;
                 beats[waves] = beat;
                 froms[waves] = from;
-                times[waves] = 1;
+                times[waves] = often;
                 waves++;
             }
         }
@@ -1193,11 +1193,13 @@ public final class ShingleBank {
             tokens.needWord("wave");
             int height = tokens.needNumber(1, 30);
             int beat = tokens.needNumber(1, 20);
-            year.add(height, beat, tokens.needNumber(0, 1));
+            int from = tokens.needNumber(0, 1);
+            int times = 1;
             if (tokens.isWord("times")) {
                 tokens.step();
-                year.times[year.waves - 1] = tokens.needNumber(1, 9);
+                times = tokens.needNumber(1, 9);
             }
+            year.add(height, beat, from, times);
         }
     }
 
