@@ -196,6 +196,7 @@ public final class AskBoundsTest extends Sentences {
         due("two thirds", on("cells 2;heap 0 0 2 1;heap 1 0 2 2;").miles(0), 666);
         due("less than one", on("cells 2;heap 0 0 2 9999;heap 1 0 2 9;").miles(0), 0);
         due("just one", on("cells 2;heap 0 0 2 999;heap 1 0 2 1;").miles(0), 1);
+        due("all CELLS together: 6 by 3", on("cells 4;heap 1 0 2 1;heap 2 0 2 1;heap 3 0 2 1;").miles(0), 2000);
     }
 
     private static void lost() {
@@ -431,6 +432,10 @@ public final class AskBoundsTest extends Sentences {
         due("the last of two", two.raised(0, 0, 1, 1, 0), 2);
         due("both of two", two.raised(0, 0, 2, 1, 0), 3);
         refused(two, "three of two", WRONG, () -> two.raised(0, 0, 3, 1, 0));
+        // by 20, 21, 20: crests of 20 and 19 are gone over 2 and 3 times, those of 21 and 20 never and twice
+        ShingleBank down = on("cells 2;crest 1 19;", "over=if height=2 then 21 else 20;", "wave 1 1 0;wave 2 1 0;wave 1 1 0;");
+        due("a crest is lower behind each OVER: 2 and 3", down.raised(0, 0, 1, 1, 1), 0 + 3);
+        due("both", down.raised(0, 0, 2, 1, 1), 0 + 2);
         ShingleBank twelve = on("cells 12;", "over=if cell>8 then 21 else 0;");
         due("the last three of twelve", twelve.raised(0, 0, 3, 1, 0), 7 << 9);
         due("of these the least two", twelve.raised(0, 0, 2, 1, 0), 3 << 9);

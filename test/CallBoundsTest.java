@@ -261,6 +261,14 @@ public final class CallBoundsTest extends Sentences {
         for (int i = 0; i < 4; i++) {
             due("LAW " + i + " is as told", b.says(i, 0, 0, 0, 0, 1, 1, 0), i + 5);
         }
+        ShingleBank again = new ShingleBank();
+        for (int i = 0; i < 9; i++) {
+            due("a long one that is faulty", Texts.law(again, "over=9;move=1" + many("+1", 280) + "x"), -9);
+        }
+        due("a long one that is not", Texts.law(again, "move=1" + many("+1", 296) + ";"), 0);
+        Texts.beach(again, "");
+        due("it is worked to its end", again.says(0, 0, 0, 0, 0, 1, 1, 0), 297);
+        due("and nothing of the faulty ones", again.says(0, 2, 0, 0, 0, 1, 1, 0), 0);
         ShingleBank first = new ShingleBank();
         Texts.feed(first, "move=7;x");
         due("only the first n bytes", first.law(7), 0);
@@ -792,6 +800,10 @@ public final class CallBoundsTest extends Sentences {
         due("all 999: none is better", none.brought(0, 0, 999, 0), -1);
         due("IN ORDER as it is", none.brought(0, 0, 999, 1), 0);
         due("998: it is", none.brought(0, 0, 998, 0), 1);
+        // SIZE 3 always comes back to CELL 0; only if it were sold, the two would be in order
+        ShingleBank back = on("cells 2;heap 0 0 0 1;heap 0 3 0 1;heap 1 1 0 1;", "move=if size=3 then 16 else 0;", "wave 1 1 1;");
+        due("to another CELL, none is sold", back.brought(0, 0, 1, 0), -1);
+        due("IN ORDER as it is", back.brought(0, 0, 1, 1), 0);
         ShingleBank nobody = withoutBeach();
         refused(nobody, "N ahead of no BEACH", WRONG, () -> nobody.brought(0, 0, 0, 0));
     }
@@ -885,6 +897,8 @@ public final class CallBoundsTest extends Sentences {
         due("100", on("cells 2;", "over=120;").high(0, 0), 100);
         due("101 would be needed", on("cells 2;", "over=121;").high(0, 0), -1);
         due("a crest of 60", on("cells 2;crest 0 60;crest 1 60;", "over=160;").high(0, 0), 100);
+        due("the first CELL alone", on("cells 3;crest 0 1;", "over=2;").high(0, 0), 1);
+        due("the last CELL alone", on("cells 3;crest 2 1;", "over=2;").high(0, 0), 1);
         due("a crest of 1", on("cells 2;crest 1 1;", "over=102;").high(0, 0), -1);
     }
 

@@ -650,6 +650,17 @@ public final class TextBoundsTest extends Sentences {
             due("then or else", value("if " + sides[a] + " then 5 else 7"), 7 - 2 * a);
             due("then or else, the other divides by 0", value("if " + sides[a] + " then 5/0 else 7"), 7 - 7 * a);
         }
+        String[] tests = {"1<2", "2>1", "2=2", "2<1", "1>2", "1=2"};
+        for (int a = 0; a < 6; a++) {
+            for (int b = 0; b < 6; b++) {
+                String told = tests[a] + " and, or " + tests[b];
+                due(told, value("if " + tests[a] + " and " + tests[b] + " then 1 else 0"), a < 3 && b < 3 ? 1 : 0);
+                due(told, value("if " + tests[a] + " or " + tests[b] + " then 1 else 0"), a < 3 || b < 3 ? 1 : 0);
+                due(told, value("if not " + tests[a] + " and " + tests[b] + " then 1 else 0"), a >= 3 && b < 3 ? 1 : 0);
+                due(told, value("if " + tests[a] + " or not " + tests[b] + " then 1 else 0"), a < 3 || b >= 3 ? 1 : 0);
+                due(told, value("if not [" + tests[a] + " or " + tests[b] + "] then 1 else 0"), a >= 3 && b >= 3 ? 1 : 0);
+            }
+        }
         due("less by one", value("if 4<5 then 1 else 0"), 1);
         due("less, alike", value("if 5<5 then 1 else 0"), 0);
         due("more by one", value("if 6>5 then 1 else 0"), 1);
