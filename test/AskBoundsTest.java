@@ -17,6 +17,7 @@ public final class AskBoundsTest extends Sentences {
         hoursEnd();
         hoursEndAll();
         nothingStays();
+        left();
         whichLaw();
         cost();
         raised();
@@ -224,7 +225,7 @@ public final class AskBoundsTest extends Sentences {
     }
 
     private static void looking() {
-        sentence("LOOKING in n CELLS: those with the most stones of that SIZE (all STUFF; of alike ones the first): of 1,000 (cut) the part of all of that SIZE that is there.");
+        sentence("COINS are sorted as a SIZE is: LOOKING in n CELLS: those with the most stones of that SIZE (all STUFF; of alike ones the first): of 1,000 (cut) the part of all of that SIZE that is there.");
         ShingleBank b = on("cells 4;heap 0 1 0 1;heap 1 1 0 1;heap 2 1 1 1;heap 3 1 2 1;heap 0 0 0 99;");
         int[] bits = {1, 3, 7, 15};
         int[] parts = {250, 500, 750, 1000};
@@ -236,6 +237,8 @@ public final class AskBoundsTest extends Sentences {
         due("one more", b.look(1, 1, 0), 8);
         due("2 of 5", b.look(1, 1, 1), 400);
         due("and the first of the alike ones", b.look(1, 2, 0), 9);
+        due("another SIZE is looked for elsewhere", b.look(0, 1, 0), 1);
+        due("and all of it is there", b.look(0, 1, 1), 1000);
         ShingleBank third = on("cells 3;heap 0 1 0 1;heap 1 1 1 1;heap 2 1 2 1;");
         due("a third, cut", third.look(1, 1, 1), 333);
         due("two thirds, cut", third.look(1, 2, 1), 666);
@@ -357,6 +360,22 @@ public final class AskBoundsTest extends Sentences {
         b.one(1);
         due("the HANDFUL stays", state(b).equals(then) ? 1 : 0, 1);
         refused(b, "another what", WRONG, () -> b.one(2));
+    }
+
+    private static void left() {
+        sentence("LEFT: stones of a CELL and SIZE.");
+        ShingleBank b = on("cells 3;sizes 3;heap 0 1 0 32;heap 0 1 2 32;heap 0 2 1 32;heap 2 1 1 5;", "move=if cell=0 then 8 else 0;wear=if size=2 then 8 else 0;", "wave 1 1 0;");
+        int[][] want = {{0, 32, 16}, {0, 32 + 8, 8}, {0, 5, 0}};
+        for (int c = 0; c < 3; c++) {
+            for (int size = 0; size < 3; size++) {
+                due("CELL " + c + ", SIZE " + size + ", all STUFF", b.left(0, 0, c, size), want[c][size]);
+            }
+        }
+        due("nothing has moved yet", b.stones(0, -1, -1), 96);
+        due("an empty LAW", Texts.law(b, ""), 1);
+        due("a YEAR of two waves", Texts.year(b, "wave 1 1 0 times 2;"), 1);
+        due("by another LAW", b.left(1, 0, 0, 1), 64);
+        due("behind another YEAR: a half of a half", b.left(0, 1, 0, 1), 16);
     }
 
     private static void whichLaw() {

@@ -124,7 +124,7 @@ public final class TextBoundsTest extends Sentences {
     }
 
     private static void extents() {
-        sentence("\"cells\" N (2 to 12; 6 without; ahead of all that tell a CELL)");
+        sentence("CLAUSE: \"cells\" N (2 to 12; 6 without; ahead of all that tell a CELL)");
         number(BEACH, "cells #;", 2, 12);
         due("2", fine(BEACH, "cells 2;").told(0), 2);
         due("12", fine(BEACH, "cells 12;").told(0), 12);
@@ -214,7 +214,7 @@ public final class TextBoundsTest extends Sentences {
         due("8, and others", fine(BEACH, many("spring 0 0 0 1;", 8) + "wall 0 1;").told(2), 8);
         faulty(BEACH, many("spring 0 0 0 1;", 9), 3, 120);
         faulty(BEACH, many("spring 0 0 0 1;", 8) + "wall 0 1; spring", 3, 130);
-        sentence("\"lorry\" C E N D (at most 4: each D HOURS, 1 to 99, N stones, 1 to 999, from CELL C to CELL E, not the same; E may be the number of CELLS: sold)");
+        sentence("or \"lorry\" C E N D (at most 4: each D HOURS, 1 to 99, N stones, 1 to 999, from CELL C to CELL E, not the same; E may be the number of CELLS: sold)");
         number(BEACH, "lorry # 6 1 1;", 0, 5);
         number(BEACH, "cells 2;lorry # 2 1 1;", 0, 1);
         number(BEACH, "cells 12;lorry # 12 1 1;", 0, 11);

@@ -3,6 +3,7 @@ public final class WaveBoundsTest extends Sentences {
     private static final int[] SOME = {0, 1, 2, 7, 8, 15, 16, 17, 31, 32, 33, 159, 160, 9999};
 
     public static void main(String[] args) {
+        anHour();
         heldMove();
         heldWear();
         sizeZero();
@@ -23,6 +24,35 @@ public final class WaveBoundsTest extends Sentences {
         inOrder();
         horns();
         end();
+    }
+
+    // ---- an hour ----
+
+    private static void anHour() {
+        sentence("A WAVE by a LAW is an HOUR.");
+        ShingleBank b = on("cells 2;heap 0 0 0 16;spring 1 0 0 1;", "move=height;", "wave 1 1 0 times 4;wave 2 1 1;");
+        due("at first", b.told(6), 0);
+        b.wave(0, 3, 1, 0);
+        due("a WAVE", b.told(6), 1);
+        due("by its LAW", b.stones(0, 0, 0), 13);
+        due("what comes each HOUR", b.sums(1), 1);
+        b.wave(0, 30, 1, 0);
+        due("a second one", b.told(6), 2);
+        due("by its LAW", b.stones(0, 0, 0), 0);
+        b.wave(0, 1, 1, 0);
+        due("one that finds nothing to move", b.told(6), 3);
+        b.run(0, 0);
+        due("the WAVES of a YEAR, each as often as told", b.told(6), 8);
+        b.lots(0, 0, 7, 1);
+        due("WAVES BY LOTS", b.told(6), 15);
+        due("what comes each HOUR", b.sums(1), 15);
+        b.says(0, 0, 0, 0, 0, 1, 1, 0);
+        due("asking is none", b.told(6), 15);
+        refused(b, "a WAVE too high", WRONG, () -> b.wave(0, 31, 1, 0));
+        due("a refused one is none", b.told(6), 15);
+        due("an empty LAW", Texts.law(b, ""), 1);
+        b.wave(1, 1, 1, 0);
+        due("a LAW that tells nothing: an HOUR all the same", b.told(6), 16);
     }
 
     // ---- what moves and wears ----
@@ -215,7 +245,7 @@ public final class WaveBoundsTest extends Sentences {
     // ---- over ----
 
     private static void overs() {
-        sentence("if what over says (size, stuff, above, below 0) is more than the crest, the crest is one less (not below 1), that is an OVER");
+        sentence("Then, CELL by CELL: if what over says (size, stuff, above, below 0) is more than the crest, the crest is one less (not below 1), that is an OVER, and");
         for (int crest : new int[]{1, 2, 3, 20, 59, 60}) {
             for (int more = -1; more <= 2; more++) {
                 ShingleBank b = on("cells 2;crest 0 " + crest + ";crest 1 60;", "over=if cell=0 then " + (crest + more) + " else 0;");
@@ -241,10 +271,20 @@ public final class WaveBoundsTest extends Sentences {
         ShingleBank wraps = on("cells 2;crest 0 1;", "over=2048*1024*1024-1+beat;");
         wraps.wave(0, 1, 1, 0);
         due("what wrapped is less", wraps.cell(0, 2), 0);
+        ShingleBank all = on("cells 12;crest 3 9;crest 11 8;", "over=cell+8;");
+        all.wave(0, 1, 1, 0);
+        for (int c = 0; c < 12; c++) {
+            // CELL 3 lets 11 over its 9, CELL 11 19 over its 8; all others say less than their 20
+            due("CELL by CELL, " + c, all.cell(c, 2), c == 3 || c == 11 ? 1 : 0);
+            due("its own crest, " + c, all.cell(c, 0), c == 3 ? 8 : c == 11 ? 7 : 20);
+        }
+        ShingleBank behind = on("cells 2;crest 0 5;heap 0 0 0 16;", "move=crest;over=6;");
+        due("behind the moving: that was by the crest as it was", behind.wave(0, 1, 1, 0), 5);
+        due("and by the lower one the next time", behind.wave(0, 1, 1, 0), 11 * 4 / 16 + 5);
     }
 
     private static void behind() {
-        sentence("of each SIZE and STUFF there as much as a 16th (cut) goes BEHIND, for ever");
+        sentence("and of each SIZE and STUFF there as much as a 16th (cut) goes BEHIND, for ever.");
         for (int n : SOME) {
             ShingleBank b = on("cells 2;heap 0 1 1 " + n + ";heap 1 1 1 " + n + ";crest 0 1;", "over=2;");
             b.wave(0, 1, 1, 0);
@@ -270,7 +310,7 @@ public final class WaveBoundsTest extends Sentences {
     // ---- springs and lorries ----
 
     private static void springs() {
-        sentence("Then springs in the order told");
+        sentence("Then springs in the order told;");
         ShingleBank b = on("cells 2;crest 0 1;spring 0 0 0 999;spring 0 0 0 1;spring 1 3 2 16;", "move=16;wear=16;over=2;");
         b.wave(0, 1, 1, 0);
         due("behind wave and OVER: all 1,000", b.stones(0, 0, 0), 1000);
@@ -284,7 +324,7 @@ public final class WaveBoundsTest extends Sentences {
     }
 
     private static void lorries() {
-        sentence("if HOURS gone (this one too) leave 0 by D, lorries in the order told");
+        sentence("then, if HOURS gone (this one too) leave 0 by D, lorries in the order told:");
         for (int every : new int[]{1, 2, 3, 7, 59, 60, 98, 99}) {
             ShingleBank b = on("cells 2;heap 0 0 0 9999;lorry 0 2 1 " + every + ";");
             int told = 0;
@@ -395,7 +435,7 @@ public final class WaveBoundsTest extends Sentences {
     }
 
     private static void lots() {
-        sentence("for each HOUR a DRAW of its waves (each as one, times no matter)");
+        sentence("BY LOTS from a YEAR: for each HOUR a DRAW of its waves (each as one, times no matter)");
         for (int waves = 1; waves <= 20; waves++) {
             StringBuilder year = new StringBuilder();
             for (int i = 0; i < waves; i++) {

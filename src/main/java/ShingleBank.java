@@ -1734,7 +1734,9 @@ public final class ShingleBank {
 
         void bring(Shore live, Law law, Year year, int n) {
             best = NONE;
-            score = behind(live, law, year).pairs(true);
+            shore.copy(live);
+            sea.rollYear(shore, law, year);
+            score = shore.pairs(true);
             for (int whence = 0; whence < live.cells; whence++) {
                 for (int whither = 0; whither < live.cells; whither++) {
                     if (whence != whither) {
