@@ -170,6 +170,7 @@ public final class CallBoundsTest extends Sentences {
         due("n 0 of a full TAPE", feedAll(b).beach(0), 6);
         due("TAPE", b.count(2), 0);
         due("SAMPLE of another BEACH", sampleOfAnother(), -1);
+        nothingOfTheFormerOne();
         sentence("or the FAULT less 10 (all but the TAPE stays).");
         ShingleBank c = on("cells 3;heap 0 0 2 40;spring 0 0 0 1;lorry 0 3 1 1;crest 0 1;wall 1 5;", "move=8;wear=8;over=2;");
         c.wave(0, 1, 1, 0);
@@ -227,6 +228,33 @@ public final class CallBoundsTest extends Sentences {
         return b.sample(11, 5, 0);
     }
 
+    /** Neither of the one ahead nor of one that was faulty. */
+    private static void nothingOfTheFormerOne() {
+        String full = "cells 12;sizes 6;heap 11 5 2 9;heap 1 1 1 9;crest 1 5;crest 11 6;wall 0 7;wall 1 8;" + many("spring 1 1 1 2;", 7) + many("lorry 1 0 3 1;", 3);
+        ShingleBank b = new ShingleBank();
+        for (int round = 0; round < 3; round++) {
+            due("a BEACH of all there is", Texts.beach(b, full), 12);
+            due("its springs", b.told(2), 7);
+            due("its lorries", b.told(3), 3);
+            due("a faulty one", Texts.beach(b, full + "x"), -9);
+            if (round == 1) {
+                due("another faulty one", Texts.beach(b, full + many("spring 1 1 1 2;", 2)), -7);
+            }
+            due("a BEACH of nothing", b.beach(0), 6);
+            due("SIZES", b.told(1), 4);
+            due("springs", b.told(2), 0);
+            due("lorries", b.told(3), 0);
+            due("stones", b.stones(-1, -1, -1), 0);
+            due("SUMS", b.sums(0), 0);
+            for (int c = 0; c < 6; c++) {
+                due("crest " + c, b.cell(c, 0), 20);
+                due("wall " + c, b.cell(c, 1), 0);
+            }
+            due("8 springs have room", Texts.beach(b, many("spring 1 1 1 2;", 8) + many("lorry 1 0 3 1;", 4)), 6);
+            due("cells and sizes may be told", Texts.beach(b, "sizes 6;cells 12;heap 11 5 0 1;"), 12);
+        }
+    }
+
     private static void law() {
         sentence("Likewise a LAW: its number, from 0 on; or the FAULT less 10; -1: there are 4 (ahead of reading it; the TAPE is empty then, too, no FAULT).");
         ShingleBank b = new ShingleBank();
@@ -269,6 +297,11 @@ public final class CallBoundsTest extends Sentences {
         Texts.beach(again, "");
         due("it is worked to its end", again.says(0, 0, 0, 0, 0, 1, 1, 0), 297);
         due("and nothing of the faulty ones", again.says(0, 2, 0, 0, 0, 1, 1, 0), 0);
+        for (int i = 0; i < 9; i++) {
+            due("a faulty one in which six are open", Texts.law(again, "move=((((((x"), -9);
+            due("a faulty one that tells all three", Texts.law(again, "over=1;wear=1;move=if not [1"), -9);
+        }
+        due("six may be open", Texts.law(again, "move=((((((1))))));over=2;wear=3;"), 1);
         ShingleBank first = new ShingleBank();
         Texts.feed(first, "move=7;x");
         due("only the first n bytes", first.law(7), 0);
@@ -299,6 +332,14 @@ public final class CallBoundsTest extends Sentences {
         due("TAPE", b.count(2), 0);
         due("a fifth of nothing", b.year(0), -1);
         due("no FAULT", b.fault(), -1);
+        ShingleBank again = new ShingleBank();
+        for (int i = 0; i < 9; i++) {
+            due("a long one that is faulty", Texts.year(again, many("wave 1 1 0 times 9;", 19) + "x"), -9);
+        }
+        due("20 waves have room", Texts.year(again, many("wave 2 1 0;", 20)), 0);
+        due("a LAW", again.law(0), 0);
+        due("a BEACH", again.beach(0), 6);
+        due("and nothing of the faulty ones", again.run(0, 0), 20);
         Texts.feed(b, "wave 1 1 0;");
         refused(b, "21 of 20, though there are 4", WRONG, () -> b.year(21));
         due("it stays", b.count(2), 20);
@@ -422,6 +463,10 @@ public final class CallBoundsTest extends Sentences {
         due("wear, not held", b.says(0, 1, 0, 0, 0, 1, 20, 0), -199980);
         due("over", b.says(0, 2, 1, 1, 2, 1, 1, 1), 2011);
         due("over, the first CELL", b.says(0, 2, 0, 1, 2, 1, 1, 0), 6000);
+        ShingleBank place = on("cells 3;crest 0 11;crest 2 33;", "move=100*cell+crest;wear=100*crest+cell;");
+        due("cell and crest for move", place.says(0, 0, 2, 0, 0, 1, 1, 0), 233);
+        due("cell and crest for wear", place.says(0, 1, 0, 0, 0, 1, 1, 0), 1100);
+        due("those of the CELL asked for, not of the one ahead", place.says(0, 0, 1, 0, 0, 1, 1, 0), 120);
         due("a SIZE and STUFF without stones", on("cells 2;", "move=size*10+stuff;").says(0, 0, 1, 3, 2, 1, 1, 0), 32);
         sentence("NoSuchElementException: no such LAW (so below). IllegalArgumentException: also height, beat, from.");
         refused(b, "LAW 1", MISSING, () -> b.says(1, 0, 0, 0, 0, 1, 1, 0));
@@ -968,7 +1013,9 @@ public final class CallBoundsTest extends Sentences {
         due("a YEAR behind it", Texts.year(b, "wave 1 1 0;"), 1);
         b.wave(0, 1, 1, 0);
         b.put(0, 4, 0, 3);
+        b.drop();
         b.take(4, 1);
+        b.take(0, 0);
         b.sample(2, 4, 8);
         b.sample(0, 0, 0);
         due("a faulty LAW", Texts.law(b, "x"), -9);

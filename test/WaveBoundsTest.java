@@ -232,6 +232,17 @@ public final class WaveBoundsTest extends Sentences {
             due("at the end", b.stones(from == 0 ? 3 : 0, 2, 0), from == 0 ? 4300 : 21);
             due("at the beginning", b.stones(from == 0 ? 0 : 3, -1, -1), 0);
         }
+        ShingleBank each = on("cells 12;sizes 6;heap 1 0 0 160;heap 1 0 1 160;heap 1 0 2 160;heap 1 4 2 160;heap 7 5 1 160;heap 11 5 1 160;", "move=stuff+1+size+cell/7*4;wear=8*stuff;");
+        due("of each as many as is said for it", each.wave(0, 1, 1, 0), 10 + 20 + 30 + 70 + 110 + 110);
+        int[][] stay = {{1, 0, 0, 150}, {1, 0, 1, 140}, {1, 0, 2, 130}, {1, 4, 2, 90}, {7, 5, 1, 50}, {11, 5, 1, 50 + 55}, {2, 0, 0, 10}, {2, 0, 1, 10}, {2, 0, 2, 0}, {2, 3, 2, 70}, {8, 5, 1, 55}, {8, 4, 1, 55}, {11, 4, 1, 55}};
+        for (int[] s : stay) {
+            due("CELL " + s[0] + ", SIZE " + s[1] + ", STUFF " + s[2], each.stones(s[0], s[1], s[2]), s[3]);
+        }
+        due("SAND of STUFF 1 and 2", each.sums(2), 10 + 30);
+        ShingleBank crests = on("cells 3;heap 0 0 0 16;heap 1 0 0 16;heap 2 0 0 16;crest 0 3;crest 2 5;", "move=if cell=1 then 0 else crest;");
+        due("each by its own crest", crests.wave(0, 1, 1, 0), 3 + 5);
+        ShingleBank waves = on("cells 2;heap 0 0 0 1600;", "move=height/2+beat/4+from;");
+        due("by its height, beat, from", waves.wave(0, 8, 16, 0), 800);
         ShingleBank shares = on("cells 3;heap 0 0 0 16;heap 1 0 0 8;heap 1 1 0 8;", "move=above*2;");
         due("above counts none that came in this HOUR: 16 of 16 of 8", shares.wave(0, 1, 1, 0), 8);
         ShingleBank gone = on("cells 2;heap 0 0 0 8;heap 0 1 0 8;", "move=if size=0 then 16 else below;");
